@@ -614,15 +614,15 @@ public final class HeelHounds {
 
         /** Behind a FAULT nothing more is read, so that readers need not ask after each sign. */
         private int sign() {
-            return isSound() && place < end ? byteAt(place) : END;
+            return fault == 0 && place < end && place < bytes.length ? bytes[place] : END;
         }
 
         private boolean isAt(int sign) {
             return sign() == sign;
         }
 
-        private boolean isAtDigit() {
-            return sign() >= '0' && sign() <= '9';
+        private static boolean isDigit(int sign) {
+            return sign >= '0' && sign <= '9';
         }
 
         private void pass() {
@@ -641,16 +641,16 @@ public final class HeelHounds {
 
         /** A number of at least one digit; a number's bounds are asked only behind its last digit. */
         private int number(int mostDigits) {
-            if (!isAtDigit()) {
+            if (!isDigit(sign())) {
                 failHere(CANT_STAND);
                 return 0;
             }
             int value = 0;
-            for (int i = 0; i < mostDigits && isAtDigit(); i++) {
+            for (int i = 0; i < mostDigits && isDigit(sign()); i++) {
                 value = 10 * value + sign() - '0';
                 pass();
             }
-            if (isAtDigit()) {
+            if (isDigit(sign())) {
                 failHere(DIGIT_TOO_MANY);
             }
             return value;

@@ -184,7 +184,25 @@ public final class HuntTest {
         CHECKS.due("then 9, of CREATURE 6: not HOME", x.tried(2, 1), 0);
         Checks.law(x, "e1+c(1=1)");
         CHECKS.due("liked more: CREATURE 7, HOME", x.tried(2, 1), 1);
-        // At a corner there is nothing beside him off the land.
+        byEdges();
+    }
+
+    private static void byEdges() {
+        // The last PLACES of THE LAND are beside him; off it there is nothing.
+        HeelHounds x = new HeelHounds();
+        x.time(20);
+        Checks.law(x, "e1(1=1)");
+        x.hound(0, 14, 1);
+        Checks.line(x, 0, 15, 1, 5, ".");
+        CHECKS.due("the right edge", x.tried(1, 10), Checks.place(15, 1));
+        x.hound(0, 1, 10);
+        Checks.line(x, 0, 0, 10, 5, ".");
+        CHECKS.due("the left edge", x.tried(1, 10), Checks.place(0, 10));
+        Checks.line(x, 0, 1, 11, 5, ".");
+        CHECKS.due("the lowest row", x.tried(1, 10), Checks.place(1, 11));
+        x.hound(0, 7, 1);
+        Checks.line(x, 0, 7, 0, 5, ".");
+        CHECKS.due("the highest row", x.tried(1, 10), Checks.place(7, 0));
         HeelHounds y = new HeelHounds();
         y.time(20);
         Checks.law(y, "e1(1=1)");

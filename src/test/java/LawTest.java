@@ -176,6 +176,9 @@ public final class LawTest {
         CHECKS.due("below its bound", x.tried(1, 30), 1);
         Checks.law(x, "e5(1=2)");
         CHECKS.due("none holds", x.tried(1, 30), 1);
+        Checks.law(x, "e0(1=2);e5(1=1)");
+        Checks.law(x, "e0(1=2)");
+        CHECKS.due("no rule of the law before", x.tried(1, 30), 1);
         Checks.law(x, "r10(1=1);r0(1=1);e5(1=1)");
         CHECKS.due("the first r", x.tried(1, 30), 1);
         Checks.law(x, "r0-3(1=1);e5(1=1)");

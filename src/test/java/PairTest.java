@@ -119,6 +119,7 @@ public final class PairTest {
         Checks.feedFinds(x, 191, 65535);
         CHECKS.due("the last of all", x.couldBe(1, 99), 0);
         Checks.feedFinds(x, 34, 12, 34, 12, 34, 12, 34, 12, 34, 12, 34, 12, 34, 12, 34, 12, 34, 12, 34, 12);
+        CHECKS.due("eleven finds of 40 bytes", x.couldBe(11, 0), -1);
         CHECKS.due("ten finds", x.couldBe(10, 0), 1);
     }
 }
