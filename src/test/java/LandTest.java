@@ -101,6 +101,9 @@ public final class LandTest {
         CHECKS.due("nothing", x.charges(0, 0), 0);
         CHECKS.due("no field", x.charges(0, 1), -2);
         CHECKS.due("nothing for it", x.charges(0, 2), 0);
+        Checks.land(x, "g0,0:1x1=1");
+        CHECKS.due("a penny", x.charges(0, 1), 6);
+        CHECKS.due("a penny for it", x.charges(0, 2), 1);
         Checks.land(x, "a0,0:5x1=0");
         CHECKS.due("a field for nothing", x.charges(0, 1), -2);
         Checks.land(x, "c0,0:1x1=9;b2,0:1x1=10;~1,0:1x1;b3,0:1x1=7;e4,0:1x1=27;e9,9:1x1=99");

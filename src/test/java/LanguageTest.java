@@ -36,13 +36,15 @@ public final class LanguageTest {
         CHECKS.due("method references", code.contains("::"), false);
         CHECKS.due("imports", Pattern.compile("(?m)^import ").matcher(code).results().count(), 1);
         CHECKS.due("import of Arrays", code.contains("import java.util.Arrays;"), true);
-        CHECKS.due("static fields are final", Pattern.compile("static (?!final)\\w+(\\[\\])? \\w+( =|;)").matcher(code).find(), false);
+        Pattern loose = Pattern.compile("static (?!final)\\w+(\\[\\])? \\w+( =|;)");
+        CHECKS.due("static fields that are not final", loose.matcher(code).find(), false);
         Set<String> library = new HashSet<>();
         Matcher calls = Pattern.compile("\\b(Math|Arrays|System|Integer|Long)\\.(\\w+)").matcher(code);
         while (calls.find()) {
             library.add(calls.group(1) + "." + calls.group(2));
         }
-        library.removeAll(Set.of("Math.min", "Math.max", "Math.abs", "Arrays.fill", "System.arraycopy", "Integer.bitCount"));
+        library.removeAll(Set.of("Math.min", "Math.max", "Math.abs", "Integer.bitCount"));
+        library.removeAll(Set.of("Arrays.fill", "System.arraycopy"));
         CHECKS.due("other parts of the library " + library, library.size(), 0);
     }
 

@@ -522,7 +522,8 @@ final class Model {
         if (!within(s, 1, 99)) {
             return -1;
         }
-        return (int) scents(now.time).stream().filter(scent -> scent.strength >= s).map(Scent::place).distinct().count();
+        return (int) scents(now.time).stream().filter(scent -> scent.strength >= s)
+            .map(Scent::place).distinct().count();
     }
 
     int couldBe(int n, int off) {

@@ -63,8 +63,8 @@ public final class ModelTest {
 
     /** Laws that let hounds run are rare by chance, so half of them are made so. */
     private String lawText() {
-        String text = random.nextBoolean() ? Texts.law(random) : "es(" + (random.nextBoolean() ? "g<5|a>3" : "1=1") + ");"
-            + Texts.law(random);
+        String first = random.nextBoolean() ? "es(g<5|a>3);" : "es(1=1);";
+        String text = (random.nextBoolean() ? "" : first) + Texts.law(random);
         return text.length() > 240 ? "e1(n<2)" : text;
     }
 
@@ -163,7 +163,11 @@ public final class ModelTest {
                 due(name, "seed " + seed, real.seed(seed), model.seed(seed));
                 break;
             default:
-                due(name, "keep, undo", f == 0 ? real.keep() : real.undo() ? 1 : 0, f == 0 ? model.keep() : model.undo() ? 1 : 0);
+                if (f == 0) {
+                    due(name, "keep", real.keep(), model.keep());
+                } else {
+                    due(name, "undo", real.undo(), model.undo());
+                }
                 break;
         }
         return 1;
