@@ -1,6 +1,7 @@
 /** Counts answers that are not as due, and tells texts to an object by its tape. */
 final class Checks {
     private final String name;
+    private String about = "";
     private int asked = 0;
     private int wrong = 0;
 
@@ -8,11 +9,16 @@ final class Checks {
         this.name = name;
     }
 
+    /** The words of the document that the answers asked next are about; they are told with a wrong one. */
+    void about(String words) {
+        about = words.isEmpty() ? "" : "\"" + words + "\": ";
+    }
+
     void due(String call, long got, long want) {
         asked++;
         if (got != want) {
             wrong++;
-            System.out.println(name + ": " + call + " answered " + got + ", due is " + want);
+            System.out.println(name + ": " + about + call + " answered " + got + ", due is " + want);
         }
     }
 
