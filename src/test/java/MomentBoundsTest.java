@@ -33,6 +33,7 @@ public final class MomentBoundsTest {
 
     private static void ends() {
         BOUNDS.test("None: he is at fault.", MomentBoundsTest::noneIsAFault);
+        BOUNDS.test("99 less AGE times FADING (if that is 0 or less there is none)", MomentBoundsTest::faded);
         BOUNDS.test("At 9 FAULTS he is LOST.", MomentBoundsTest::nineFaults);
         BOUNDS.test("THE TIME is one more (9999 at most: then none goes by).", MomentBoundsTest::lastTime);
     }
@@ -202,7 +203,8 @@ public final class MomentBoundsTest {
     }
 
     private static void reach() {
-        int[][] hounds = {{7, 6}, {0, 0}, {15, 0}, {0, 11}, {15, 11}, {0, 5}, {15, 5}, {7, 0}, {7, 11}};
+        int[][] hounds = {{7, 6}, {0, 0}, {15, 0}, {0, 11}, {15, 11}, {0, 5}, {15, 5}, {7, 0}, {7, 11},
+            {1, 5}, {14, 5}, {7, 1}, {7, 10}};
         for (int[] hound : hounds) {
             for (int place = 0; place < 192; place++) {
                 int far = Math.abs(hound[0] - place % 16) + Math.abs(hound[1] - place / 16);
@@ -371,6 +373,25 @@ public final class MomentBoundsTest {
         CHECKS.due("in the water", z.tried(1, 30), 1);
         Checks.land(z, "~6,2:1x3;a6,3:1x1=0");
         CHECKS.due("a FIELD over it", z.tried(1, 20), 15);
+    }
+
+    /** For each FADING the last AGE at which there is a SCENT to go to. */
+    private static void faded() {
+        int[] ages = {9998, 98, 49, 32, 24, 19, 16, 14, 12, 10};
+        for (int fading = 0; fading < 10; fading++) {
+            HeelHounds x = new HeelHounds();
+            Checks.line(x, 0, 5, 5, 0, "r");
+            Checks.law(x, "e1(1=1)");
+            x.fading(fading);
+            x.hound(0, 4, 5);
+            x.time(ages[fading]);
+            CHECKS.due("HOME by AGE " + ages[fading], x.tried(1, 1), 1);
+            x.time(ages[fading] + 1);
+            CHECKS.due("FAULTS by one more", x.tried(1, 30), fading == 0 ? 0 : 1);
+            CHECKS.due("not HOME by one more", x.tried(1, 1), 0);
+            x.time(Math.min(9998, ages[fading] + 9));
+            CHECKS.due("FAULTS by nine more", x.tried(1, 30), fading == 0 ? 0 : 1);
+        }
     }
 
     private static void nineFaults() {

@@ -219,12 +219,31 @@ public final class WayBoundsTest {
         Checks.line(y, 4, 8, 9, 0, ".");
         CHECKS.due("two and two: the lowest", y.crowd(0, 0), Checks.place(8, 9));
         CHECKS.due("two and two: how many", y.crowd(0, 1), 2);
+        crowdsOfFour();
         HeelHounds z = new HeelHounds();
         Checks.line(z, 0, 0, 0, 0, ".");
         CHECKS.due("PLACE 0", z.crowd(0, 0), 0);
         Checks.line(z, 1, 15, 11, 0, ".");
         Checks.line(z, 2, 15, 11, 0, ".");
         CHECKS.due("PLACE 191", z.crowd(0, 0), 191);
+    }
+
+    /** Four CREATURES at three PLACES, in all ways. */
+    private static void crowdsOfFour() {
+        for (int ways = 0; ways < 81; ways++) {
+            HeelHounds x = new HeelHounds();
+            int[] many = new int[3];
+            for (int c = 0, rest = ways; c < 4; c++, rest /= 3) {
+                Checks.line(x, c, 5 + rest % 3, 5, 0, ".");
+                many[rest % 3]++;
+            }
+            int fullest = 0;
+            for (int i = 1; i < 3; i++) {
+                fullest = many[i] > many[fullest] ? i : fullest;
+            }
+            CHECKS.due("the fullest of " + ways, x.crowd(0, 0), 85 + fullest);
+            CHECKS.due("how many of " + ways, x.crowd(0, 1), many[fullest]);
+        }
     }
 
     private static void crowdBounds() {
@@ -319,6 +338,9 @@ public final class WayBoundsTest {
         // A PLACE that was cut away is new again.
         unloopedIs("2rl2dur", 85, 86, 102, 103);
         unloopedIs("2rl2r", 85, 86, 87, 88);
+        unloopedIs("2rldru", 85, 86, 102, 103, 87);
+        unloopedIs("2rdluurddl", 85, 86, 70, 71, 87, 103, 102);
+        unloopedIs("rdludru", 85, 101, 102, 86);
         unloopedIs("4r2dl3u", 85, 86, 87, 88, 72);
     }
 
@@ -367,6 +389,15 @@ public final class WayBoundsTest {
         heldIs(13, 9, "2r2d2l2u", 1);
         heldIs(13, 1, "2d2r", 0);
         heldIs(0, 0, "3r2d3l2u", 2);
+        // At each edge alone, open to it and closed along it.
+        heldIs(3, 0, "2d2r2u", 0);
+        heldIs(3, 0, "2d2r2ul", 1);
+        heldIs(15, 3, "2l2d2r", 0);
+        heldIs(15, 3, "2l2d2ru", 1);
+        heldIs(3, 11, "2u2r2d", 0);
+        heldIs(3, 11, "2u2r2dl", 1);
+        heldIs(0, 3, "2r2d2l", 0);
+        heldIs(0, 3, "2r2d2lu", 1);
         // All along the edge but for one: what is within comes out by it.
         heldIs(0, 0, "9r6r9d2d9l6l9u2u", 140);
         heldIs(0, 0, "9r6r9d2d9l6l9uu", 140);
