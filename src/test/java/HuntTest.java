@@ -251,15 +251,7 @@ public final class HuntTest {
         HeelHounds none = new HeelHounds();
         none.hound(0, 0, 0);
         none.moments(10);
-        CHECKS.due("nine DRAWS till LOST", none.count(8), behind(1, 9));
-    }
-
-    private static int behind(int seed, int draws) {
-        int drawn = seed;
-        for (int i = 0; i < draws; i++) {
-            drawn = (25173 * drawn + 13849) % 65536;
-        }
-        return drawn;
+        CHECKS.due("nine DRAWS till LOST", none.count(8), Draws.behind(1, 9));
     }
 
     private static void giveUp() {
@@ -268,7 +260,7 @@ public final class HuntTest {
         x.hound(1, 6, 4);
         CHECKS.due("one gives up", x.moments(1), 1);
         houndIs(x, 1, Checks.place(6, 4), 10000, 0, 2);
-        CHECKS.due("who gives up does not draw", x.count(8), behind(1, 1));
+        CHECKS.due("who gives up does not draw", x.count(8), Draws.behind(1, 1));
         x.moments(2);
         houndIs(x, 0, Checks.place(6, 3), 15, 0, 2);
         // As it is then: HOUND 1 sees where HOUND 0 has gone to in the same MOMENT.
@@ -451,7 +443,7 @@ public final class HuntTest {
         CHECKS.due("seed 65535", x.seed(65535), true);
         x.hound(0, 6, 4);
         x.moments(1);
-        CHECKS.due("X then", x.count(8), behind(65535, 1));
+        CHECKS.due("X then", x.count(8), Draws.behind(65535, 1));
         CHECKS.due("undo without keep", x.undo(), false);
         x.seed(7);
         CHECKS.due("keep", x.keep(), 21);

@@ -68,23 +68,6 @@ public final class MomentBoundsTest {
         CHECKS.due("state of " + h, x.houndIs(h, 3), state);
     }
 
-    private static int behind(int seed, int draws) {
-        long drawn = seed;
-        for (int i = 0; i < draws; i++) {
-            drawn = (25173 * drawn + 13849) % 65536;
-        }
-        return (int) drawn;
-    }
-
-    private static int seedFor(int draw) {
-        for (int seed = 0; seed < 65536; seed++) {
-            if (behind(seed, 1) % 10 == draw) {
-                return seed;
-            }
-        }
-        return -1;
-    }
-
     private static void byNumbers() {
         // Only to where nobody is: the lower one goes first, and the higher one sees him there.
         HeelHounds x = hunt("e1(n=0)");
@@ -118,7 +101,7 @@ public final class MomentBoundsTest {
         rest.moments(3);
         hound(rest, 0, Checks.place(2, 2), 10, 0, 1);
         hound(rest, 1, Checks.place(6, 4), 10000, 0, 2);
-        CHECKS.due("one DRAW in all", rest.count(8), behind(1, 1));
+        CHECKS.due("one DRAW in all", rest.count(8), Draws.behind(1, 1));
     }
 
     private static void lostByX() {
@@ -128,7 +111,7 @@ public final class MomentBoundsTest {
         CHECKS.due("RUNNING", x.moments(1), 1);
         hound(x, 0, Checks.place(6, 4), 10000, 0, 2);
         hound(x, 1, Checks.place(6, 4), 16, 0, 0);
-        CHECKS.due("he does not draw", x.count(8), behind(1, 1));
+        CHECKS.due("he does not draw", x.count(8), Draws.behind(1, 1));
         // x is asked ahead of all: he who would be HOME is LOST.
         HeelHounds y = hunt("x(1=1);e1(1=1)");
         y.hound(0, 1, 2);
@@ -142,7 +125,7 @@ public final class MomentBoundsTest {
         for (int draw = 0; draw < 10; draw++) {
             HeelHounds x = hunt("e1(1=1);r5(1=1)");
             x.hound(0, 6, 4);
-            x.seed(seedFor(draw));
+            x.seed(Draws.seedFor(draw));
             x.moments(1);
             hound(x, 0, Checks.place(6, 4), draw < 5 ? 10000 : 16, draw < 5 ? 1 : 0, 0);
         }
@@ -158,7 +141,7 @@ public final class MomentBoundsTest {
         z.hound(0, 6, 4);
         z.hound(1, 15, 11);
         z.moments(2);
-        CHECKS.due("four DRAWS", z.count(8), behind(1, 4));
+        CHECKS.due("four DRAWS", z.count(8), Draws.behind(1, 4));
     }
 
     private static void draws() {
@@ -176,18 +159,18 @@ public final class MomentBoundsTest {
             y.hound(3, 0, 0);
             y.seed(seed);
             y.moments(1);
-            CHECKS.due("X behind " + seed, y.count(8), behind(seed, 1));
+            CHECKS.due("X behind " + seed, y.count(8), Draws.behind(seed, 1));
             y.moments(7);
-            CHECKS.due("X eight behind " + seed, y.count(8), behind(seed, 8));
+            CHECKS.due("X eight behind " + seed, y.count(8), Draws.behind(seed, 8));
         }
         for (int seed = 0; seed < 65536; seed += 131) {
             HeelHounds y = new HeelHounds();
             y.hound(3, 0, 0);
             y.seed(seed);
-            Checks.law(y, "r" + behind(seed, 1) % 10 + "(1=1);e1(1=1)");
+            Checks.law(y, "r" + Draws.behind(seed, 1) % 10 + "(1=1);e1(1=1)");
             Checks.line(y, 0, 0, 0, 0, ".");
             CHECKS.due("a DRAW that is r is not below it", y.tried(1, 33), 0);
-            Checks.law(y, "r" + (behind(seed, 1) % 10 + 1) + "(1=1);e1(1=1)");
+            Checks.law(y, "r" + (Draws.behind(seed, 1) % 10 + 1) + "(1=1);e1(1=1)");
             CHECKS.due("a DRAW that is one less is", y.tried(1, 33), 1);
         }
     }
@@ -403,7 +386,7 @@ public final class MomentBoundsTest {
         hound(x, 0, Checks.place(9, 9), 10000, 9, 2);
         x.moments(5);
         hound(x, 0, Checks.place(9, 9), 10000, 9, 2);
-        CHECKS.due("nine DRAWS", x.count(8), behind(1, 9));
+        CHECKS.due("nine DRAWS", x.count(8), Draws.behind(1, 9));
         // By DRAWS as well.
         HeelHounds y = hunt("e1(1=1);r10(1=1)");
         y.hound(0, 6, 4);
@@ -431,7 +414,7 @@ public final class MomentBoundsTest {
         CHECKS.due("RUNNING, though none goes by", x.moments(1), 1);
         CHECKS.due("THE TIME stays", x.count(0), 9999);
         CHECKS.due("FAULTS stay", x.houndIs(0, 2), 2);
-        CHECKS.due("X stays", x.count(8), behind(1, 2));
+        CHECKS.due("X stays", x.count(8), Draws.behind(1, 2));
         CHECKS.due("none is tried", x.tried(100, 30), 2);
         // x would make him LOST, if one went by.
         Checks.law(x, "x(1=1)");

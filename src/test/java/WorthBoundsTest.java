@@ -78,31 +78,21 @@ public final class WorthBoundsTest {
         goesTo("e5-a(a>4)", 10000);
     }
 
-    /** A seed whose next DRAW is the one wanted. */
-    private static int seedFor(int draw) {
-        for (int seed = 0; seed < 65536; seed++) {
-            if ((int) ((25173L * seed + 13849) % 65536 % 10) == draw) {
-                return seed;
-            }
-        }
-        return -1;
-    }
-
     private static void boundsOfTenths() {
         for (int draw = 0; draw < 10; draw++) {
             for (int tenths = 0; tenths <= 10; tenths++) {
                 HeelHounds x = onScent("e1(1=1);r" + tenths + "(1=1)");
-                x.seed(seedFor(draw));
+                x.seed(Draws.seedFor(draw));
                 CHECKS.due("DRAW " + draw + " of r " + tenths, x.tried(1, 30), draw < tenths ? 1 : 0);
             }
             for (String beyond : new String[] {"11", "99999", "65536*32767"}) {
                 HeelHounds x = onScent("e1(1=1);r" + beyond + "(1=1)");
-                x.seed(seedFor(draw));
+                x.seed(Draws.seedFor(draw));
                 CHECKS.due("DRAW " + draw + " of r " + beyond, x.tried(1, 30), 1);
             }
             for (String below : new String[] {"0-1", "0-99999", "65536*32768"}) {
                 HeelHounds x = onScent("e1(1=1);r" + below + "(1=1)");
-                x.seed(seedFor(draw));
+                x.seed(Draws.seedFor(draw));
                 CHECKS.due("DRAW " + draw + " of r " + below, x.tried(1, 30), 0);
             }
         }
@@ -373,7 +363,7 @@ public final class WorthBoundsTest {
         Checks.law(y, "e1(1=1);r10(h=1&n=2)");
         CHECKS.due("n where he is, in r", y.tried(1, 31), 1);
         Checks.law(y, "e1(h=0);r0-9+9*n(1=1)");
-        y.seed(seedFor(0));
+        y.seed(Draws.seedFor(0));
         CHECKS.due("n of one in r", y.tried(1, 30), 0);
     }
 }
