@@ -138,6 +138,14 @@ public final class TwinTest {
                 alike(text + " behind " + before, x, y, ofHounds());
             }
         }
+        // A RULE of the one before, were it left, would be asked by what now stands in its place.
+        HeelHounds left = new HeelHounds();
+        Checks.line(left, 0, 5, 5, 0, "r");
+        left.hound(0, 5, 5);
+        CHECKS.due("two RULES", Checks.law(left, "r1(1=2);e1+1(1=1)"), 2);
+        CHECKS.due("HOME by e", left.tried(1, 1), 1);
+        CHECKS.due("one RULE", Checks.law(left, "r0(1=2|5=5&7=7)"), 1);
+        CHECKS.due("at fault without e", left.tried(1, 30), 1);
         // So many, one behind the other, that what any leaves would add up.
         HeelHounds x = new HeelHounds();
         x.hound(0, 0, 0);
@@ -177,11 +185,11 @@ public final class TwinTest {
         }
     }
 
-    /** A full hunt whose LINE of CREATURE 7 holds much in, and that of CREATURE 0 has loops. */
+    /** A full hunt whose LINE of CREATURE 7 holds much in, and that of CREATURE 0 has loops and stays at first. */
     private static HeelHounds ringed() {
         HeelHounds x = full();
         Checks.line(x, 7, 2, 2, 6, "7r6d7l6u");
-        Checks.line(x, 0, 5, 5, 4, "2rdl2urddlr2.");
+        Checks.line(x, 0, 5, 5, 4, "2.2rdl2urddl7r4d");
         return x;
     }
 }
