@@ -323,6 +323,20 @@ public final class WorthBoundsTest {
         }
         Checks.law(x, "e1(h=0&n=6)");
         CHECKS.due("not he", x.tried(1, 20), 10000);
+        // Those that are LOST are HOUNDS at their PLACE still, and so are those that are HOME.
+        Checks.law(x, "x(h>0)");
+        CHECKS.due("one is RUNNING", x.moments(1), 1);
+        Checks.law(x, "e1(n=5)");
+        CHECKS.due("five that are LOST", x.tried(1, 20), 6);
+        HeelHounds y = onScent("e1(1=1)");
+        y.hound(0, 2, 3);
+        y.moments(1);
+        CHECKS.due("HOME at (3,3)", y.houndIs(0, 3), 1);
+        y.hound(1, 3, 4);
+        Checks.law(y, "e1(n=1)");
+        CHECKS.due("one that is HOME", y.tried(1, 21), 4);
+        Checks.law(y, "e1(n=0)");
+        CHECKS.due("not none there", y.tried(1, 31), 1);
     }
 
     private static void letterT() {
