@@ -632,7 +632,7 @@ public final class HeelHounds {
         }
 
         private void expect(int sign) {
-            if (isAt(sign)) {
+            if (sign() == sign) {
                 pass();
             } else {
                 failHere(CANT_STAND);
@@ -656,8 +656,12 @@ public final class HeelHounds {
             return value;
         }
 
+        /** Not by failAt: readers of THE LAW come here with seven calls open, and eight are the most. */
         private void failHere(int number) {
-            failAt(number, place);
+            if (fault == 0) {
+                fault = number;
+                faultPlace = place;
+            }
         }
 
         private void failAt(int number, int where) {
@@ -1278,7 +1282,7 @@ public final class HeelHounds {
 
         private void readSum(int open) {
             readTerm(open);
-            for (int i = 0; i < LAW_BYTES && (tape.isAt(Law.PLUS) || tape.isAt(Law.MINUS)); i++) {
+            for (int i = 0; i < LAW_BYTES && joinsTerms(tape.sign()); i++) {
                 int sign = tape.sign();
                 tape.pass();
                 readTerm(open);
@@ -1288,7 +1292,7 @@ public final class HeelHounds {
 
         private void readTerm(int open) {
             readFactor(open);
-            for (int i = 0; i < LAW_BYTES && isAtTermSign(); i++) {
+            for (int i = 0; i < LAW_BYTES && joinsFactors(tape.sign()); i++) {
                 int sign = tape.sign();
                 tape.pass();
                 readFactor(open);
@@ -1296,8 +1300,12 @@ public final class HeelHounds {
             }
         }
 
-        private boolean isAtTermSign() {
-            return tape.isAt(Law.TIMES) || tape.isAt(Law.DIVIDED) || tape.isAt(Law.REMAINDER);
+        private static boolean joinsTerms(int sign) {
+            return sign == Law.PLUS || sign == Law.MINUS;
+        }
+
+        private static boolean joinsFactors(int sign) {
+            return sign == Law.TIMES || sign == Law.DIVIDED || sign == Law.REMAINDER;
         }
 
         private void readFactor(int open) {
